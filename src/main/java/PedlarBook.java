@@ -253,8 +253,8 @@ public final class PedlarBook {
 
     /** By the TEXTS that there are now: one that comes later may bar a DEBT that is there. */
     private int barredFrom(int x) {
-        int years = texts.valueIn(Texts.YEARS, landOfDebt(x), debts.days[x]);
-        return years == 0 ? NONE : debts.days[x] + years;
+        int limit = texts.valueIn(Texts.LIMIT, landOfDebt(x), debts.days[x]);
+        return limit == 0 ? NONE : debts.days[x] + limit;
     }
 
     private boolean isBarred(int x, int day) {
@@ -648,10 +648,11 @@ public final class PedlarBook {
         int count;
 
         Spans(int room) {
-            whos = new int[room];
-            whats = new int[room];
-            froms = new int[room];
-            tos = new int[room];
+            int most = Math.max(0, room);
+            whos = new int[most];
+            whats = new int[most];
+            froms = new int[most];
+            tos = new int[most];
         }
 
         int add(int who, int what, int from, int to) {
@@ -915,7 +916,8 @@ public final class PedlarBook {
 
         private void hearOwn(int day, Ledger ledger, Packs packs) {
             for (int e = 0; e < ledger.count; e++) {
-                if (ledger.days[e] == day) heads[packs.bands[ledger.packs[e]]] |= 1L << e;
+                int pack = ledger.packs[e];
+                if (ledger.days[e] == day && packs.has(pack)) heads[packs.bands[pack]] |= 1L << e;
             }
         }
 
@@ -951,7 +953,7 @@ public final class PedlarBook {
      * which are values of one subject.
      */
     static final class Texts {
-        static final int SHARE = 0, PRICE = 1, YEARS = 2, HEIR = 3, FIRST_GOOD = 4;
+        static final int SHARE = 0, PRICE = 1, LIMIT = 2, HEIR = 3, FIRST_GOOD = 4;
         static final int FREE = 0, BY_LICENCE = 2;
         static final int MOST_CLAUSES = 6, MOST_DIGITS = 4, SEMICOLON = 59, DIGIT_0 = 48, DIGIT_9 = 57;
 
@@ -1138,20 +1140,25 @@ public final class PedlarBook {
             int less = 0;
             for (int first = 0; first < PARTIES; first++) {
                 row[0] = first;
-                less += cancelFrom(1);
+                less += cancelFrom(this, 1);
             }
             return less;
         }
 
-        private int cancelFrom(int length) {
-            int less = length < 2 ? 0 : lessen(length);
-            if (length >= LONGEST_RING) return less;
-            for (int next = row[0] + 1; next < PARTIES; next++) {
-                if (isInRow(next, length) || owing[row[length - 1] * PARTIES + next] == 0) continue;
-                row[length] = next;
-                less += cancelFrom(length + 1);
+        /** All rows that go on from the first ones of the table's row, these alone ahead of longer ones. */
+        private static int cancelFrom(Owed table, int length) {
+            int less = length < 2 ? 0 : table.lessen(length);
+            if (length < 1 || length >= LONGEST_RING) return less;
+            for (int next = table.row[0] + 1; next < PARTIES; next++) {
+                if (table.isInRow(next, length) || !table.owesLast(next, length)) continue;
+                table.row[length] = next;
+                less += cancelFrom(table, length + 1);
             }
             return less;
+        }
+
+        private boolean owesLast(int next, int length) {
+            return owing[row[length - 1] * PARTIES + next] > 0;
         }
 
         private boolean isInRow(int p, int length) {
