@@ -443,14 +443,14 @@ public final class PromisesTest {
         due(-104, x.text(0, 0, 0, 0, 0, 1, 4));
         due(-101, x.text(0, 0, 0, 0, 0, 1, 1));
         due(2, x.many(6));
-        int[] wrongs = {0, 0, 0, 1, 1, 1, 2, 1, 5, 1, 1, 1, 1, 1, 3, 3, 3, 4, 17, 3, 2, 1, 1, 1, 5, 5, 4};
+        int[] wrongs = {0, 0, 0, 1, 1, 1, 2, 1, 5, 1, 1, 1, 1, 1, 3, 3, 3, 4, 17, 3, 2, 1, 1, 1, 5, 5, 4, 1, 1, 1, 1, 1};
         String[] codes = {"", ";", "1", "s", "s;", "ss", "s1s", "s11", "y12345", "s12345", "y0", "y0000", "p100", "h3",
             "s1;", "s1;;", "s1;x1", "s1;s", "s1;s1;s1;s1;s1;s1;s1", "s1;S1", "s1 ", "b8", "u8", "f9", "s00100",
-            "y99999", "s1;s11"};
+            "y99999", "s1;s11", "f8", "p;", "px", "y:", "p/"};
         for (int k = 0; k < wrongs.length; k++) due(-100 - wrongs[k], text(x, 0, 0, 0, codes[k]));
         due(2, x.many(6));
         due(2, text(x, -1, 0, 9999, "s0;s10;p0;p99;y1;y9999"));
-        due(3, text(x, 5, 0, 9999, "s0010;b0;b7;u0;f7;h2"));
+        due(3, text(x, 5, 0, 9999, "s0010;b7;u7;u0;f7;h2"));
         due(4, text(x, 5, 9999, 9999, "y0001"));
         write(x, 1, 2, 's' + 256, '1');
         due(-100, x.text(0, 0, 0, 1, 2, 0, 2));
@@ -579,6 +579,12 @@ public final class PromisesTest {
         due(4, x.licence(0, 2, 21, 21));
         due(11, x.unallowed(0));
         due(0, x.unallowed(1));
+        x.walk(1, 1, 0, 99);
+        write(x, 0, 0, 0, 1, 9, 1, 2, 1, 8, 1, 2, 1, 9, 1);
+        due(STATE, x.entries(1, 0, 0, 0, 3));
+        due(0, x.unallowed(1));
+        due(2, x.entries(1, 0, 0, 0, 2));
+        due(1, x.unallowed(1));
         on(21);
         for (int n = 5; n <= 12; n++) due(n, x.licence(2, 0, 0, 0));
         due(FULL, x.licence(2, 0, 0, 0));
@@ -673,6 +679,7 @@ public final class PromisesTest {
         due(7, x.paid(3, 3, 44));
         due(7, x.due(3, 7));
         x.door(0, 2, 2, 5, 55);
+        due(1, x.paid(6, 4, 55));
         due(1, x.dead(2, 60));
         due(12, x.due(6, 7));
     }
@@ -774,6 +781,23 @@ public final class PromisesTest {
         due(67, x.share(2, 0, 40, 0));
         due(26 + 2, x.share(2, 0, 40, 1));
         due(13, x.share(2, 0, 40, 3));
+        // the very first ENTRY counts, and the last one that there can be
+        x = land();
+        x.entry(0, 1, 0, 2, 5, 0);
+        due(0, x.share(0, 0, 9999, 0));
+        for (int e = 1; e < 58; e++) x.entry(1, 0, 0, 1, 1, 0);
+        x.entry(0, 2, 0, 1, 30, 1);
+        x.entry(0, 2, 0, 1, 30, 1);
+        due(60, x.many(5));
+        due(50, x.share(0, 0, 9999, 0));
+        due(20, x.share(0, 0, 1, 1));
+        // rows that were taken back do not
+        x = land();
+        write(x, 0, 0, 0, 1, 9, 1, 2, 1, 9, 1, 2, 1, 1, 1);
+        due(STATE, x.entries(0, 0, 0, 0, 3));
+        due(0, x.share(0, 0, 9999, 0));
+        due(0, x.credit(0, 9999));
+        due(0, x.tell(0, 0));
     }
 
     private static void owing() {
