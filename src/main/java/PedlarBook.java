@@ -343,12 +343,12 @@ public final class PedlarBook {
     }
 
     public int owe(int by, int to, int v) {
-        if (!arePair(by, to) || !isBelow(v, 100000)) return OUTSIDE;
+        if (!areParties(by, to) || by == to || !isBelow(v, 100000)) return OUTSIDE;
         return owed.change(by, to, v);
     }
 
     public int owes(int by, int to) {
-        if (!arePair(by, to)) return OUTSIDE;
+        if (!areParties(by, to)) return OUTSIDE;
         return owed.owing[by * Owed.PARTIES + to];
     }
 
@@ -364,7 +364,7 @@ public final class PedlarBook {
     }
 
     public int pays(int by, int to) {
-        if (!arePair(by, to)) return OUTSIDE;
+        if (!areParties(by, to)) return OUTSIDE;
         owed.settle();
         return owed.paying[by * Owed.PARTIES + to];
     }
@@ -374,8 +374,9 @@ public final class PedlarBook {
         return owed.fallen();
     }
 
-    private static boolean arePair(int by, int to) {
-        return isBelow(by, Owed.PARTIES) && isBelow(to, Owed.PARTIES) && by != to;
+    /** One PARTY may stand on both sides: only owe() refuses that, so it owes and pays itself 0. */
+    private static boolean areParties(int by, int to) {
+        return isBelow(by, Owed.PARTIES) && isBelow(to, Owed.PARTIES);
     }
 
     // ---- 6 rounds, plans

@@ -520,19 +520,19 @@ final class Model {
         return new int[] {all, master + over, man, boy}[who];
     }
 
-    private static boolean pair(int by, int to) {
-        return in(by, 0, 9) && in(to, 0, 9) && by != to;
+    private static boolean parties(int by, int to) {
+        return in(by, 0, 9) && in(to, 0, 9);
     }
 
     int owe(int by, int to, int v) {
-        if (!pair(by, to) || !in(v, 0, 99999)) return OUTSIDE;
+        if (!parties(by, to) || by == to || !in(v, 0, 99999)) return OUTSIDE;
         int was = owed[by][to];
         owed[by][to] = v;
         return was;
     }
 
     int owes(int by, int to) {
-        return pair(by, to) ? owed[by][to] : OUTSIDE;
+        return parties(by, to) ? owed[by][to] : OUTSIDE;
     }
 
     int ring() {
@@ -607,7 +607,7 @@ final class Model {
     }
 
     int pays(int by, int to) {
-        return pair(by, to) ? falling()[by][to] : OUTSIDE;
+        return parties(by, to) ? falling()[by][to] : OUTSIDE;
     }
 
     int ruin() {

@@ -84,7 +84,7 @@ public final class PromisesTest {
         for (int what = 0; what < 10; what++) due(0, x.many(what));
         for (int k = 0; k < 4; k++) due(0, x.lose(k));
         for (int by = 0; by < 10; by++) {
-            for (int to = 0; to < 10; to++) if (by != to) due(0, x.owes(by, to));
+            for (int to = 0; to < 10; to++) due(0, x.owes(by, to));
         }
         due(0, x.trace());
         due(0, x.fault());
@@ -819,7 +819,13 @@ public final class PromisesTest {
         due(0, x.owes(0, 9));
         due(OUTSIDE, x.owes(-1, 0));
         due(OUTSIDE, x.owes(0, 10));
-        due(OUTSIDE, x.owes(4, 4));
+        due(OUTSIDE, x.owes(10, 10));
+        due(OUTSIDE, x.owes(-1, -1));
+        // one PARTY on both sides is no refusal here: owe() never writes there
+        for (int p = 0; p < 10; p++) {
+            due(OUTSIDE, x.owe(p, p, 9));
+            due(0, x.owes(p, p));
+        }
         on(33);
         due(OUTSIDE, x.party(-1, 0, 0));
         due(OUTSIDE, x.party(10, 0, 0));
@@ -839,7 +845,14 @@ public final class PromisesTest {
         on(34);
         due(OUTSIDE, x.pays(10, 0));
         due(OUTSIDE, x.pays(0, -1));
-        due(OUTSIDE, x.pays(0, 0));
+        due(OUTSIDE, x.pays(10, 10));
+        due(OUTSIDE, x.pays(-1, -1));
+        for (int p = 0; p < 10; p++) due(0, x.pays(p, p));
+        // nor of one that has COIN left, or that FALLS
+        x.party(9, 0, 3);
+        for (int p = 0; p < 10; p++) due(0, x.pays(p, p));
+        x.party(9, 0, 50);
+        for (int p = 0; p < 10; p++) due(0, x.pays(p, p));
     }
 
     private static void rings() {
