@@ -40,6 +40,21 @@ public final class NewsEdgesTest extends Edges {
             due(NONE, x.known(0, 1));
             due(NONE, x.known(0, VILLAGE));
         });
+        edge(13, "NONE: BAND 0 never, of the first ENTRY, which is another one's", () -> {
+            PedlarBook x = bare();
+            x.entry(1, 0, 0, 1, 0, 7);
+            due(NONE, x.known(0, 0));
+            due(7, x.known(0, 1));
+            due(NONE, x.known(0, 2));
+        });
+        edge(13, "an ENTRY that comes behind an asking is known, too", () -> {
+            PedlarBook x = bare();
+            x.entry(0, 0, 0, 1, 0, 7);
+            due(7, x.known(0, 0));
+            x.entry(0, 0, 0, 1, 0, 8);
+            due(8, x.known(1, 0));
+            due(2, x.knows(0, 8));
+        });
         edge(13, "BANDS that are at no PLACE do not meet", () -> {
             PedlarBook x = bare();
             x.entry(0, 0, 0, 1, 0, 5);
@@ -126,6 +141,28 @@ public final class NewsEdgesTest extends Edges {
             x.walk(0, 1, 10, 10);
             x.walk(1, 1, 11, 11);
             due(NONE, x.known(0, 1));
+        });
+        edge(13, "on the first DAY of the first STAY, within a longer one", () -> {
+            PedlarBook x = bare();
+            x.walk(0, 1, 50, 50);
+            x.walk(1, 1, 40, 60);
+            x.entry(0, 0, 0, 1, 0, 10);
+            due(50, x.known(0, 1));
+        });
+        edge(13, "by STAYS there are: a later call's STAY ahead of the ENTRY's DAY tells nothing of it", () -> {
+            for (int band = 0; band < 3; band++) {
+                PedlarBook x = bare();
+                int other = (band + 1) % 3;
+                x.entry(band, 0, 0, 1, 0, 10);
+                due(10, x.known(0, band));
+                x.walk(band, 1, 5, 5);
+                x.walk(other, 1, 5, 5);
+                due(NONE, x.known(0, other));
+                due(10, x.known(0, band));
+                x.walk(other, 1, 9, 10);
+                x.walk(band, 1, 9, 11);
+                due(10, x.known(0, other));
+            }
         });
         edge(13, "by STAYS there are: one that comes later as a call may make it earlier", () -> {
             PedlarBook x = bare();

@@ -296,6 +296,16 @@ public final class PacksEdgesTest extends Edges {
             due(40, x.meet(0, 1, 35));
             due(55, x.meet(1, 0, 41));
         });
+        edge(7, "by the last of 40 STAYS", () -> {
+            PedlarBook x = bare();
+            for (int k = 0; k < 38; k++) x.walk(2, 1, k, k);
+            x.walk(0, 1, 40, 50);
+            due(NONE, x.meet(0, 1, 0));
+            x.walk(1, 1, 50, 60);
+            due(50, x.meet(0, 1, 0));
+            due(50, x.meet(1, 0, 0));
+            due(NONE, x.meet(0, 2, 0));
+        });
         edge(7, "DAYS 0 and 9999", () -> {
             PedlarBook x = bare();
             x.walk(0, 1, 0, 0);

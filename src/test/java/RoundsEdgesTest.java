@@ -263,6 +263,14 @@ public final class RoundsEdgesTest extends Edges {
             x.right(1, 1, 0, 0, 9999);
             due(10000, x.two(1));
         });
+        edge(39, "a DAY between that is not shared, of RIGHTS that came backward", () -> {
+            PedlarBook x = land();
+            x.right(2, 1, 0, 7, 9);
+            x.right(2, 1, 0, 3, 5);
+            x.right(2, 1, 0, 0, 1);
+            x.right(0, 1, 0, 0, 9999);
+            due(2 + 3 + 3, x.two(1));
+        });
         edge(39, "20 RIGHTS, each other DAY", () -> {
             PedlarBook x = bare();
             write(x, 0, 0, 0);

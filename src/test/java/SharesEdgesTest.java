@@ -284,12 +284,15 @@ public final class SharesEdgesTest extends Edges {
         });
         edge(32, "what is OWED less is paid less: pays() and ruin() see it at once", () -> {
             PedlarBook x = circle(2, 7);
-            x.owe(0, 2, 3);
-            due(1, x.ruin() & 1);
-            x.ring();
+            x.owe(1, 0, 9);
+            due(7, x.pays(0, 1));
+            due(2, x.ruin());
+            due(14, x.ring());
             due(0, x.pays(0, 1));
-            x.party(0, 0, 3);
+            due(2, x.ruin());
+            x.party(1, 0, 2);
             due(0, x.ruin());
+            due(2, x.pays(1, 0));
         });
     }
 
@@ -479,6 +482,17 @@ public final class SharesEdgesTest extends Edges {
             arePaid(debtor(2, 1, 1, 1), 0, 0, 0);
             arePaid(debtor(50, 60, 30, 10), 30, 15, 5);
             arePaid(debtor(7, 10, 10, 10), 2, 2, 2);
+        });
+        edge(34, "each PARTY is paid its part: the first and the last, too", () -> {
+            PedlarBook x = new PedlarBook();
+            x.owe(5, 0, 20);
+            x.owe(5, 9, 20);
+            x.party(5, 0, 10);
+            due(5, x.pays(5, 0));
+            due(5, x.pays(5, 9));
+            x.party(9, 1, 2);
+            due(10, x.pays(5, 0));
+            due(0, x.pays(5, 9));
         });
         edge(34, "no COIN: nothing is paid", () -> arePaid(debtor(0, 60, 30, 10), 0, 0, 0));
         edge(34, "the greatest numbers", () -> {

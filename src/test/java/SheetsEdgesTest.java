@@ -13,6 +13,7 @@ public final class SheetsEdgesTest extends Edges {
         tell();
         show();
         taken();
+        takenOfItsOwn();
         trace();
         fault();
         many();
@@ -416,6 +417,18 @@ public final class SheetsEdgesTest extends Edges {
                 }
             });
         }
+    }
+
+    private static void takenOfItsOwn() {
+        edge(51, "a PACK's kind is not its number's DEBT's: CAST of the one, 1 of the other", () -> {
+            PedlarBook x = bare();
+            x.door(2, 0, 0, 1, 0);
+            x.door(0, 0, 0, 1, 0);
+            due(CAST, x.taken(0, 0, 2));
+            due(1, x.taken(1, 0, 2));
+            due(1, x.taken(0, 1, 1));
+            due(CAST, x.taken(1, 1, 1));
+        });
     }
 
     private static void trace() {

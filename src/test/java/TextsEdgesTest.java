@@ -189,14 +189,16 @@ public final class TextsEdgesTest extends Edges {
         edge(16, "of 60 cells up to the last one, in each LANE", () -> {
             for (int lane = 0; lane < 3; lane++) {
                 PedlarBook x = bare();
-                x.sheet(0, lane, 60);
-                x.put(0, 57, 'p');
-                x.put(0, 58, '4');
-                x.put(0, 59, '2');
-                due(0, x.text(5, 0, 0, 0, lane, 57, 3));
-                due(1, x.text(5, 0, 0, 0, lane, 57, 2));
-                due(-100, x.text(5, 0, 0, 0, lane, 0, 60));
-                due(4, x.force(1, 5, 0));
+                x.sheet(3, lane, 60);
+                x.put(3, 55, 'y');
+                for (int i = 56; i < 60; i++) x.put(3, i, '4');
+                due(0, x.text(5, 0, 0, 3, lane, 55, 5));
+                due(4444, x.force(2, 5, 0));
+                due(1, x.text(5, 0, 0, 3, lane, 55, 2));
+                due(4, x.force(2, 5, 0));
+                due(-100, x.text(5, 0, 0, 3, lane, 0, 60));
+                x.put(3, 59, 'p');
+                due(-101, x.text(5, 0, 0, 3, lane, 59, 1));
             }
         });
         edge(16, "codes are cut to their LANE as they are put, and are not cut as they are read", () -> {
