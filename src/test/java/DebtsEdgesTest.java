@@ -155,7 +155,7 @@ public final class DebtsEdgesTest extends Edges {
 
     private static PedlarBook allDebts() {
         PedlarBook x = land();
-        while (x.many(7) < 20) x.door(0, 0, 0, 1, 50);
+        for (int k = x.many(7); k < 20; k++) x.door(0, 0, 0, 1, 50);
         return x;
     }
 

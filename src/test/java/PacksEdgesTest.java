@@ -85,7 +85,7 @@ public final class PacksEdgesTest extends Edges {
 
     private static PedlarBook allPlaces() {
         PedlarBook x = land();
-        while (x.many(0) < 16) x.place(0);
+        for (int k = x.many(0); k < 16; k++) x.place(0);
         return x;
     }
 
@@ -120,7 +120,7 @@ public final class PacksEdgesTest extends Edges {
 
     private static PedlarBook allBands() {
         PedlarBook x = land();
-        while (x.many(1) < 6) x.band(1, 1);
+        for (int k = x.many(1); k < 6; k++) x.band(1, 1);
         return x;
     }
 
@@ -152,7 +152,7 @@ public final class PacksEdgesTest extends Edges {
 
     private static PedlarBook allHouses() {
         PedlarBook x = land();
-        while (x.many(2) < 4) x.house(1);
+        for (int k = x.many(2); k < 4; k++) x.house(1);
         return x;
     }
 
@@ -320,7 +320,7 @@ public final class PacksEdgesTest extends Edges {
 
     private static PedlarBook allPacks() {
         PedlarBook x = land();
-        while (x.many(4) < 12) x.pack(0, 0, 0);
+        for (int k = x.many(4); k < 12; k++) x.pack(0, 0, 0);
         return x;
     }
 
@@ -349,13 +349,13 @@ public final class PacksEdgesTest extends Edges {
 
     private static PedlarBook allEntries() {
         PedlarBook x = land();
-        while (x.many(5) < 60) x.entry(1, 1, 0, 1, 1, 50);
+        for (int k = x.many(5); k < 60; k++) x.entry(1, 1, 0, 1, 1, 50);
         return x;
     }
 
     private static PedlarBook allEntriesButOne() {
         PedlarBook x = land();
-        while (x.many(5) < 59) x.entry(1, 1, 0, 1, 1, 50);
+        for (int k = x.many(5); k < 59; k++) x.entry(1, 1, 0, 1, 1, 50);
         return x;
     }
 

@@ -20,7 +20,7 @@ public final class RoundsEdgesTest extends Edges {
 
     private static PedlarBook allRounds() {
         PedlarBook x = land();
-        while (x.many(8) < 10) x.round(0, 2, 0, 1);
+        for (int k = x.many(8); k < 10; k++) x.round(0, 2, 0, 1);
         return x;
     }
 
@@ -393,7 +393,7 @@ public final class RoundsEdgesTest extends Edges {
 
     private static PedlarBook allOffers() {
         PedlarBook x = land();
-        while (x.many(9) < 9) x.offer(2, 0, 0, 501, 1);
+        for (int k = x.many(9); k < 9; k++) x.offer(2, 0, 0, 501, 1);
         return x;
     }
 
@@ -444,6 +444,17 @@ public final class RoundsEdgesTest extends Edges {
         edge(42, "no OFFERS: none of them, 0", () -> {
             due(0, new PedlarBook().best(0));
             due(0, new PedlarBook().best(1));
+        });
+        edge(42, "one OFFER alone: the first, and the last of nine", () -> {
+            PedlarBook x = market();
+            x.offer(0, 0, 0, 10, 1);
+            due(1, x.best(0));
+            due(1, x.best(1));
+            for (int k = 1; k < 8; k++) x.offer(0, 0, 0, 0, 0);
+            due(1, x.best(0));
+            x.offer(0, 0, 0, 0, 2);
+            due(256, x.best(0));
+            due(2, x.best(1));
         });
         edge(42, "0 at least: there may be none of them", () -> {
             PedlarBook x = market();

@@ -527,7 +527,9 @@ public final class SheetsEdgesTest extends Edges {
             x.taken(0, 0, 2);
             due(UNKNOWN, x.round(0, 2, 0, 1));
             due(0, x.fault());
-            while (x.round(0, 2, 1, 1) >= 0) x.taken(0, 0, 2);
+            for (int r = 2; r < 10; r++) due(r, x.round(0, 2, 1, 1));
+            x.taken(0, 0, 2);
+            due(FULL, x.round(0, 2, 1, 1));
             due(0, x.fault());
         });
         edge(53, "calls that name none leave it", () -> {

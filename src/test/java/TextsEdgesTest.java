@@ -229,7 +229,7 @@ public final class TextsEdgesTest extends Edges {
 
     private static PedlarBook allTexts() {
         PedlarBook x = land();
-        while (x.many(6) < 10) x.text(5, 9999, 9999, 2, 1, 0, 2);
+        for (int k = x.many(6); k < 10; k++) x.text(5, 9999, 9999, 2, 1, 0, 2);
         return x;
     }
 
