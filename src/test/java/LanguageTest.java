@@ -1,3 +1,4 @@
+import java.lang.reflect.Array;
 import java.lang.reflect.Constructor;
 import java.lang.reflect.Field;
 import java.lang.reflect.Method;
@@ -24,6 +25,7 @@ public final class LanguageTest {
         words(code);
         creations(code);
         lengths(code);
+        room();
         System.out.println(wrong == 0 ? "the class keeps to its language" : wrong + " rules are broken");
         if (wrong != 0) System.exit(1);
     }
@@ -116,6 +118,29 @@ public final class LanguageTest {
             boolean inSpans = line.matches("\\s*(whos|whats|froms|tos) = new int\\[most\\];");
             must(field || inSpans, "made with the object: " + line.trim());
         }
+    }
+
+    /** All is made with the object, so what an object takes is what a run of calls takes: far below a run's room. */
+    private static void room() throws Exception {
+        int[] taken = taking(new PedlarBook());
+        must(taken[0] <= 100, "an object is of " + taken[0] + " objects and arrays");
+        must(taken[1] <= 5000, "an object is of " + taken[1] + " fields and elements");
+    }
+
+    /** {objects and arrays, fields and elements}; nothing in the object is reached by two ways. */
+    private static int[] taking(Object x) throws Exception {
+        if (x.getClass().isArray()) return new int[] {1, Array.getLength(x)};
+        int[] sum = {1, 0};
+        for (Field f : x.getClass().getDeclaredFields()) {
+            if (Modifier.isStatic(f.getModifiers())) continue;
+            sum[1]++;
+            if (f.getType().isPrimitive()) continue;
+            f.setAccessible(true);
+            int[] part = taking(f.get(x));
+            sum[0] += part[0];
+            sum[1] += part[1];
+        }
+        return sum;
     }
 
     /** Rule 11: methods of at most sixty lines. */
